@@ -9,6 +9,7 @@ public final class BestTest {
         need();
         needBehindDays();
         off();
+        offOfSix();
         offBehindDays();
         Due.end("BestTest");
     }
@@ -40,7 +41,10 @@ public final class BestTest {
         x.lift(1, 9);
         Due.is("shed(0, 1, 0)", x.shed(0, 1, 0), 4);
         x.walk(0, 0);
-        Due.is("the last: shed(0, 2, 0)", x.shed(0, 2, 0), 7);
+        Due.is("shed(0, 2, 0)", x.shed(0, 2, 0), 7);
+        SorrowSpots last = Due.told("one 0;pin 1 0 2;yellow 1 0 7;");
+        Due.is("the last place alone is out of reach: shed(0, 2, 0)", last.shed(0, 2, 0), 9);
+        Due.is("shed(0, 2, 1)", last.shed(0, 2, 1), 1);
     }
 
     private static void shedWithSitters() {
@@ -201,6 +205,29 @@ public final class BestTest {
         x.lift(3, 0);
         Due.is("he is not counted: off(1, 0, 0)", x.off(1, 0, 0), SorrowSpots.NONE);
         Due.is("he is not counted: off(1, 0, 1)", x.off(1, 0, 1), SorrowSpots.NONE);
+    }
+
+    private static void offOfSix() {
+        // whoever is away, the others stay who they are
+        SorrowSpots x = Due.told("one 1;one 4;one 7;one 9;pin 1 0 2;pin 2 1 5;pin 3 2 8;pin 4 3 9;red 5 2 6;red 6 3 8;");
+        Due.is("ahead(3, 1)", x.ahead(3, 1), 8 + 6);
+        Due.is("off(3, 1, 0)", x.off(3, 1, 0), 3);
+        Due.is("off(3, 1, 1)", x.off(3, 1, 1), 6);
+        Due.is("off(2, 1, 0)", x.off(2, 1, 0), 2);
+        Due.is("off(2, 1, 1)", x.off(2, 1, 1), 5);
+        Due.is("off(0, 1, 0)", x.off(0, 1, 0), 0);
+        Due.is("off(0, 1, 1)", x.off(0, 1, 1), 0);
+        SorrowSpots y = Due.told("one 3;one 6;red 9 1 3;red 2 0 7;");
+        Due.is("it comes from 7 behind 4 days: off(0, 3, 0)", y.off(0, 3, 0), SorrowSpots.NONE);
+        Due.is("off(0, 4, 0)", y.off(0, 4, 0), 1);
+        Due.is("off(0, 4, 1)", y.off(0, 4, 1), 0);
+        Due.is("off(1, 3, 0)", y.off(1, 3, 0), 0);
+        // behind a day 5 by the red one, 6 by the orphan; the pin is still on its way
+        SorrowSpots z = Due.told("one 0;one 9;red 2 1 9;red 5 0 1;pin 5 0 9;");
+        z.dab(2, 9, 0);
+        Due.is("ahead(0, 1)", z.ahead(0, 1), 11);
+        Due.is("off(0, 1, 0)", z.off(0, 1, 0), 3);
+        Due.is("off(0, 1, 1)", z.off(0, 1, 1), 5);
     }
 
     private static void offBehindDays() {

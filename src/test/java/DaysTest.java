@@ -157,6 +157,12 @@ public final class DaysTest {
         }
         Due.is("runs(60, 0)", x.runs(60, 0), 3);
         Due.is("runs(60, 3)", x.runs(60, 3), 4);
+        SorrowSpots full = Due.told("one 0;one 1;one 2;one 3;"
+                + "red 1 0 1;red 2 1 2;red 3 2 3;red 4 3 4;pin 5 3 9;yellow 7 2 4;");
+        Due.is("all that may be: runs(1, 0)", full.runs(1, 0), 5);
+        Due.is("all that may be: runs(1, 1)", full.runs(1, 1), 14);
+        Due.is("all that may be: runs(2, 1)", full.runs(2, 1), 24);
+        Due.is("all that may be: runs(60, 3)", full.runs(60, 3), 2);
         x.days(4);
         Due.is("runs(0, 3): from 0 on", x.runs(0, 3), 0);
         Due.is("no beetles: all sit", new SorrowSpots().runs(9, 3), 0);
@@ -208,6 +214,11 @@ public final class DaysTest {
         Due.is("where(1, 60)", y.where(1, 60), -15);
         Due.is("where(1, 57)", y.where(1, 57), -12);
         Due.is("home(0)", y.home(0), 0);
+        SorrowSpots late = Due.told("one 0;one 9;orphan 1 0 5;orphan 5 1 3;orphan 2 1 2;orphan 5 0 4;"
+                + "wind 0 6;wind 3 5;wind 4 5;");
+        Due.is("home(3): the last day", late.home(3), 60);
+        Due.is("where(3, 59)", late.where(3, 59) < -9 ? 1 : 0, 1);
+        Due.is("where(3, 60)", late.where(3, 60), 0);
     }
 
     private static void nothingIsChanged() {

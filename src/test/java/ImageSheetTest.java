@@ -68,7 +68,10 @@ public final class ImageSheetTest {
         Due.is("images stay: count(1)", x.count(1), 2);
         x.walk(0, 0);
         x.forget(0);
+        x.see(0, 0, 99);
+        Due.is("owners(1): not as seen", x.owners(1), 0);
         Due.is("an image is what was, not what is: back(1)", x.back(1), 2);
+        Due.is("owners(1)", x.owners(1), 1);
         Due.is("one(0, 0)", x.one(0, 0), 3);
         Due.is("count(0)", x.count(0), 1);
         Due.is("back(0)", x.back(0), 5);
@@ -202,6 +205,10 @@ public final class ImageSheetTest {
     private static void readFaults() {
         SorrowSpots x = three(1);
         Due.is("nothing: read(0, 0, 0, 1)", x.read(0, 0, 0, 1), 0);
+        Due.is("torn()", x.torn(), 1);
+        Due.is("read(1, 1, 8, 1)", x.read(1, 1, 8, 1), 0);
+        Due.is("torn()", x.torn(), 2);
+        Due.is("nothing: read(3, 0, 0, 1)", x.read(3, 0, 0, 1), 0);
         Due.is("torn()", x.torn(), 1);
         Due.is("read(1, 1, 0, 4): those that were whole", x.read(1, 1, 0, 4), 3);
         Due.is("torn()", x.torn(), 2);

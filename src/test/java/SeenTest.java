@@ -143,6 +143,10 @@ public final class SeenTest {
         late.walk(1, 8);
         late.walk(0, 2);
         Due.is("of several the least", late.ask(0, 0), 30);
+        SorrowSpots last = Due.told("one 2;one 3;one 0;red 6 2 8;orphan 4 2 7;orphan 9 1 0;orphan 7 1 9;"
+                + "wind 2 7;wind 3 3;wind 5 5;");
+        Due.is("the 20th day: ask(0, 0)", last.ask(0, 0), 201);
+        Due.is("the 20th day: ask(0, 1)", last.ask(0, 1), 1);
         SorrowSpots same = Due.told("one 0;one 9;orphan 4 0 5;");
         Due.is("an orphan's owner is never told", same.ask(0, 0), SorrowSpots.NONE);
         Due.is("an orphan's owner is never told", same.ask(0, 1), SorrowSpots.NONE);

@@ -152,6 +152,12 @@ public final class TextTest {
         fault(x, "one 1;redred 1 0 0;", 2, 6);
         fault(x, "on 1;", 2, 0);
         fault(x, "ones 1;", 2, 0);
+        fault(x, "ane 1;", 2, 0);
+        fault(x, "pix 1 0 0;", 2, 0);
+        fault(x, "one 1; a", 2, 7);
+        fault(x, "one 1; z", 2, 7);
+        fault(x, "one 1; 0", 2, 7);
+        fault(x, "one 1; 9", 2, 7);
         fault(x, "one 1;red 100 0;", 1, 10);
         fault(x, "one 1;red 10 0;", 3, 10);
         fault(x, "One 1;", 1, 0);
@@ -283,6 +289,9 @@ public final class TextTest {
         Due.is("one(1, 1)", x.one(1, 1), 4);
         Due.is("one(1, 2)", x.one(1, 2), 3);
         Due.is("one(1, 3)", x.one(1, 3), 0);
+        x.alter(0, 0, 3);
+        Due.is("one(0, 3): the first is a pin now", x.one(0, 3), 8 + 4 + 18);
+        x.alter(0, 0, 0);
         x.lift(1, 3);
         Due.is("one(0, 1): it is in the air", x.one(0, 1), 1 + 8);
         Due.is("one(0, 3): it is in the air", x.one(0, 3), 18);
