@@ -6,6 +6,7 @@ public final class ImageSheetTest {
     public static void main(String[] args) {
         keep();
         back();
+        backToWhatWasSeen();
         sheet();
         lay();
         laidByLanes();
@@ -78,6 +79,22 @@ public final class ImageSheetTest {
         Due.is("one(0, 0)", x.one(0, 0), 8);
         Due.is("rule(1)", x.rule(1), 3);
         Due.is("count(0)", x.count(0), 2);
+    }
+
+    private static void backToWhatWasSeen() {
+        // the pin lands behind 2 days on the second one: all three numbers of what was seen matter
+        SorrowSpots x = Due.told("one 0;one 9;pin 4 1 4;");
+        x.see(2, 1, 8);
+        x.keep(0);
+        Due.is("owners(0)", x.owners(0), 2);
+        int[][] others = {{1, 1, 8}, {2, 0, 8}, {2, 1, 0}};
+        for (int[] o : others) {
+            x.forget(0);
+            x.see(o[0], o[1], o[2]);
+            Due.is("owners(0), other things seen", x.owners(0) == 2 ? 1 : 0, 0);
+            x.back(0);
+            Due.is("owners(0)", x.owners(0), 2);
+        }
     }
 
     private static void sheet() {
@@ -315,7 +332,17 @@ public final class ImageSheetTest {
         for (int what = 0; what < due.length; what++) {
             Due.is("count(" + what + ")", x.count(what), due[what]);
         }
+        x.keep(0);
         x.dab(1, 3, 0);
         Due.is("count(4)", x.count(4), 16);
+        x.dab(3, 3, 0);
+        x.dab(3, 3, 0);
+        x.dab(3, 3, 0);
+        Due.is("count(4) of six", x.count(4), 25);
+        Due.is("one(0, 3) of six", x.one(0, 3), 18);
+        x.back(0);
+        Due.is("count(4) of two again", x.count(4), 13);
+        Due.is("one(0, 1) of two again", x.one(0, 1), 0);
+        Due.is("one(0, 3) of two again", x.one(0, 3), 0);
     }
 }
