@@ -391,25 +391,11 @@ public final class SorrowSpots {
     // ---- still days by odds
 
     public long luck(int v, int b, int n, int what) {
-        if (!isWithin(v, 0, OUT_OF) || !now.hasBeetle(b)) {
-            return BAD;
-        }
-        if (!isWithin(n, 0, ODDS_FARTHEST) || !isWithin(what, 0, 1)) {
-            return BAD;
-        }
-        futures[0].copyFrom(now);
-        return fractionOfTens(sumOverFutures(futures, 0, n, v, false, b), n, what);
+        return now.hasBeetle(b) ? byOdds(v, n, what, false, b) : BAD;
     }
 
     public long mean(int v, int p, int n, int what) {
-        if (!isWithin(v, 0, OUT_OF) || !now.hasOne(p)) {
-            return BAD;
-        }
-        if (!isWithin(n, 0, ODDS_FARTHEST) || !isWithin(what, 0, 1)) {
-            return BAD;
-        }
-        futures[0].copyFrom(now);
-        return fractionOfTens(sumOverFutures(futures, 0, n, v, true, p), n, what);
+        return now.hasOne(p) ? byOdds(v, n, what, true, p) : BAD;
     }
 
     // ---- whose it is
@@ -632,6 +618,14 @@ public final class SorrowSpots {
             }
         }
         return most;
+    }
+
+    private long byOdds(int v, int n, int what, boolean isCounted, int who) {
+        if (!isWithin(v, 0, OUT_OF) || !isWithin(n, 0, ODDS_FARTHEST) || !isWithin(what, 0, 1)) {
+            return BAD;
+        }
+        futures[0].copyFrom(now);
+        return fractionOfTens(sumOverFutures(futures, 0, n, v, isCounted, who), n, what);
     }
 
     /**
