@@ -2,8 +2,16 @@
 final class Due {
     private static int asked = 0;
     private static int wrong = 0;
+    private static int sentences = 0;
+    private static String sentence = "";
 
     private Due() {
+    }
+
+    /** What stands in the document (or is said of it) and is held by the answers from here on. */
+    static void sentence(String words) {
+        sentences++;
+        sentence = words;
     }
 
     static void is(String call, long got, long want) {
@@ -11,7 +19,8 @@ final class Due {
         if (got != want) {
             wrong++;
             if (wrong <= 50) {
-                System.out.println(call + " answered " + got + ", due is " + want);
+                System.out.println(call + " answered " + got + ", due is " + want
+                        + (sentence.isEmpty() ? "" : " (" + sentence + ")"));
             }
         }
     }
@@ -43,7 +52,8 @@ final class Due {
 
     /** Ends the test: by exit code 1 if an answer was wrong. */
     static void end(String test) {
-        System.out.println(test + ": " + asked + " answers, " + wrong + " wrong");
+        System.out.println(test + ": " + (sentences == 0 ? "" : sentences + " sentences, ")
+                + asked + " answers, " + wrong + " wrong");
         if (wrong != 0 || asked == 0) {
             System.exit(1);
         }
