@@ -36,6 +36,7 @@ public final class TermsTest {
         paces();
         weights();
         countedOfNoneAndOfAll();
+        TextTerms.hold();
         DayTerms.hold();
         SeenAndSheetTerms.hold();
         Due.end("TermsTest");
