@@ -32,6 +32,7 @@ final class BestEdges {
         offOfNone();
         offEachBeetle();
         offLessThanAsItIs();
+        offLeavesTheOthersAsTheyAre();
         offOfSeveralTheFirst();
         offOfSixtyDays();
     }
@@ -381,6 +382,27 @@ final class BestEdges {
         x.alter(1, 1, 2);
         offIs(x, 0, 1, NONE, NONE);
         offIs(x, 0, 0, 1, 0);
+        // as it is behind them, not now: now he is not COUNTED yet
+        SorrowSpots y = Due.told("one 4;red 3 0 5;");
+        offIs(y, 0, 0, NONE, NONE);
+        offIs(y, 0, 1, 0, 0);
+    }
+
+    private static void offLeavesTheOthersAsTheyAre() {
+        Due.sentence("26 off(): the others go on as they are, KIND, SPOTS, OWNER, where they are");
+        // the red one, the yellow one and the pin land on the first day; the orphan is still on its way to the third
+        SorrowSpots x = Due.told("one 1;one 4;one 6;one 9;red 9 0 2;yellow 9 0 3;orphan 9 0 1;pin 9 3 6;");
+        x.dab(0, 2, 1);
+        x.dab(0, 1, 3);
+        int[] counted = {9, 7, 0, 19};
+        for (int p = 0; p < 4; p++) {
+            Due.is("ahead(" + p + ", 1)", x.ahead(p, 1), counted[p]);
+        }
+        // without the red one the orphan lands on the first instead
+        offIs(x, 0, 1, 0, 6);
+        offIs(x, 1, 1, 1, 2);
+        offIs(x, 2, 1, NONE, NONE);
+        offIs(x, 3, 1, 3, 1);
     }
 
     private static void offOfSeveralTheFirst() {

@@ -1,8 +1,6 @@
-import java.lang.reflect.InvocationTargetException;
 import java.lang.reflect.Method;
 import java.lang.reflect.Modifier;
 import java.util.ArrayList;
-import java.util.Arrays;
 import java.util.List;
 import java.util.Random;
 
@@ -11,7 +9,6 @@ import java.util.Random;
  * held against that of Model. An argument 'runs' asks for more runs than CI has time for.
  */
 public final class ModelTest {
-    private static final int CALLS = 512;
     private static final int[] ODD = {-1, -2, -3, 10, 11, 13, 14, 20, 21, 30, 31, 40, 41, 60, 61, 99,
         100, 127, 128, 160, 161, 255, 256, 1000, 65536, Integer.MAX_VALUE, Integer.MIN_VALUE};
     private static final String[] WORDS = {"one ", "red ", "yellow ", "orphan ", "pin ", "wind "};
@@ -19,7 +16,7 @@ public final class ModelTest {
         "6", "4", "100", "?", ".", "\t", "x", "A", "yellow", "  "};
 
     private final Random chance;
-    private final SorrowSpots x = new SorrowSpots();
+    private final Calls x = new Calls();
     private final Model model = new Model();
     private final List<String> told = new ArrayList<>();
 
@@ -27,7 +24,7 @@ public final class ModelTest {
         chance = new Random(seed);
     }
 
-    public static void main(String[] args) throws Exception {
+    public static void main(String[] args) {
         int runs = args.length == 1 ? Integer.parseInt(args[0]) : 400;
         for (int seed = 0; seed < runs && Due.wrongSoFar() == 0; seed++) {
             new ModelTest(seed).run(seed);
@@ -46,12 +43,12 @@ public final class ModelTest {
         return all;
     }
 
-    private void run(int seed) throws Exception {
+    private void run(int seed) {
         List<Method> face = face();
         // some runs keep to ordinary arguments, so that much comes about; some are mostly wrong ones
         double oddness = List.of(0.0, 0.03, 0.1, 0.3).get(seed % 4);
         int calls = 0;
-        while (calls < CALLS && Due.wrongSoFar() == 0) {
+        while (calls < Calls.MOST && Due.wrongSoFar() == 0) {
             if (calls == 0 || chance.nextInt(120) == 0) {
                 String text = chance.nextInt(4) == 0 ? brokenText() : text();
                 for (int i = 0; i < text.length(); i++) {
@@ -75,24 +72,13 @@ public final class ModelTest {
         }
     }
 
-    private void call(String name, int... a) throws Exception {
-        Class<?>[] types = new Class<?>[a.length];
-        Object[] given = new Object[a.length];
-        for (int i = 0; i < a.length; i++) {
-            types[i] = int.class;
-            given[i] = a[i];
-        }
-        told.add(name + Arrays.toString(a));
+    private void call(String name, int... a) {
+        told.add(Calls.told(name, a));
         long due = model.call(name, a);
-        try {
-            long got = ((Number) SorrowSpots.class.getMethod(name, types).invoke(x, given)).longValue();
-            Due.is(name + Arrays.toString(a), got, due);
-            if (got != due) {
-                System.out.println("behind " + told);
-            }
-        } catch (InvocationTargetException thrown) {
-            System.out.println(name + Arrays.toString(a) + " threw " + thrown.getCause() + " behind " + told);
-            Due.is(name + Arrays.toString(a) + " threw", 1, 0);
+        long got = x.answer(name, a);
+        Due.is(Calls.told(name, a), got, due);
+        if (got != due) {
+            System.out.println("behind " + told);
         }
     }
 

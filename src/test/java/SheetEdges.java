@@ -15,6 +15,7 @@ final class SheetEdges {
         keepIsWhatWasThen();
         backOfNone();
         backToAll();
+        backToWhatWasSeen();
         backTellsTheDay();
         sheetOfNoneToForty();
         sheetIsNewOfNoughts();
@@ -131,6 +132,36 @@ final class SheetEdges {
         Due.is("one(0, 0)", x.one(0, 0), 1);
         Due.is("as SEEN: owners(1)", x.owners(1), 3);
         Due.is("beetle(2, 0)", x.beetle(2, 0), BAD);
+    }
+
+    private static void backToWhatWasSeen() {
+        Due.sentence("36 back(): what was SEEN: each of six, its DAYS, its ONE, how much");
+        SorrowSpots x = Due.told("one 0;one 9;pin 4 1 3;");
+        // it comes to the second behind 2 days, or would to the first behind 1
+        int[][] was = {{2, 1, 8}, {1, 1, 0}, {0, 0, 0}, {20, 1, 8}, {2, 0, 0}, {1, 0, 0}};
+        for (int[] w : was) {
+            x.see(w[0], w[1], w[2]);
+        }
+        x.keep(0);
+        Due.is("owners(0)", x.owners(0), 2);
+        for (int i = 0; i < 6; i++) {
+            x.forget(0);
+            for (int j = 0; j < 6; j++) {
+                int[] w = was[j];
+                x.see(j == i ? 3 : w[0], j == i ? 1 - w[1] : w[1], j == i ? w[2] + 1 : w[2]);
+            }
+            Due.is("another: owners(0)", x.owners(0), 0);
+            Due.is("back(0)", x.back(0), 0);
+            Due.is("count(0)", x.count(0), 6);
+            Due.is("as SEEN: owners(0)", x.owners(0), 2);
+        }
+        for (int at = 0; at < 3; at++) {
+            x.forget(0);
+            x.see(at == 0 ? 1 : 2, at == 1 ? 0 : 1, at == 2 ? 9 : 8);
+            Due.is("one number is another: owners(0)", x.owners(0) & 2, 0);
+            x.back(0);
+            Due.is("as SEEN: owners(0)", x.owners(0), 2);
+        }
     }
 
     private static void backTellsTheDay() {

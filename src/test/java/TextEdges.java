@@ -281,6 +281,10 @@ final class TextEdges {
         Due.is("one(0, 2)", x.one(0, 2), 20 + 2 + 18);
         Due.is("one(0, 3)", x.one(0, 3), 20);
         Due.is("one(1, 3)", x.one(1, 3), 18);
+        x.alter(0, 0, 3);
+        Due.is("the first is a pin, too: one(0, 3)", x.one(0, 3), 38);
+        x.alter(5, 0, 0);
+        Due.is("the last is none: one(0, 3)", x.one(0, 3), 20);
     }
 
     private static void beetleOnWhom() {
