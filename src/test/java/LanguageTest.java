@@ -31,6 +31,7 @@ public final class LanguageTest {
         String source = withoutCommentsAndTexts(Files.readString(Path.of("src/main/java/SorrowSpots.java")));
         words(source);
         lengths(source);
+        objects(source);
         Due.end("LanguageTest");
     }
 
@@ -108,6 +109,23 @@ public final class LanguageTest {
                 begin = 0;
             }
         }
+    }
+
+    /** All calls of a run live in one room, so what an object needs is made with it, and never again. */
+    private static void objects(String source) {
+        int inFields = 0;
+        int inConstructor = 0;
+        for (String text : source.split("\n")) {
+            if (text.matches(".*\\bnew\\b.*")) {
+                boolean isField = text.matches(" {4}( {4})?private final [^;{]*= new [^;{]*;");
+                inFields += isField ? 1 : 0;
+                inConstructor += text.matches(" {12}(futures|images|sheets)\\[i\\] = new \\w+\\(\\);") ? 1 : 0;
+            }
+        }
+        int all = (int) Pattern.compile("\\bnew\\b").matcher(source).results().count();
+        Due.is("what is made, by fields and by the constructor", inFields + inConstructor, all);
+        Due.is("what is made by the constructor", inConstructor, 3);
+        Due.is("clone, copyOf", Pattern.compile("\\b(clone|copyOf|copyOfRange)\\b").matcher(source).find() ? 1 : 0, 0);
     }
 
     private static String withoutCommentsAndTexts(String source) {
